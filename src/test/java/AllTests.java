@@ -1,0 +1,21 @@
+/** Runs all tests of the project; ends with exit code 1 if one fails. */
+public final class AllTests {
+    private AllTests() {
+    }
+
+    public static void main(String[] args) throws Exception {
+        FaceTests.run();
+        LanguageTests.run();
+        FloorTests.run();
+        StockTests.run();
+        RobotTests.run();
+        TickTests.run();
+        PointTests.run();
+        TrafficTests.run();
+        ModelTests.run(400);
+        System.out.println("own checks: " + Check.right + " right, " + Check.wrong + " wrong");
+        if (Check.wrong != 0) {
+            System.exit(1);
+        }
+    }
+}

@@ -1,0 +1,58 @@
+/** Counts what is as due and prints what is not. */
+final class Check {
+    static int right = 0;
+    static int wrong = 0;
+
+    interface Call {
+        long answer();
+    }
+
+    private Check() {
+    }
+
+    static void due(String what, long got, long want) {
+        if (got == want) {
+            right++;
+        } else {
+            wrong++;
+            System.out.println(what + " answered " + got + ", due is " + want);
+        }
+    }
+
+    static void due(String what, boolean got, boolean want) {
+        due(what, got ? 1 : 0, want ? 1 : 0);
+    }
+
+    static void due(String what, String got, String want) {
+        boolean same = got.equals(want);
+        due(what, same, true);
+        if (!same) {
+            System.out.println("  got:  " + got + "\n  want: " + want);
+        }
+    }
+
+    /** The call must throw the exception, and leave all that can be asked of the swarm as it was. */
+    static void refused(String what, ShelfSwarm swarm, Class<? extends RuntimeException> want, Call call) {
+        String before = Snapshot.of(swarm);
+        String thrown = "nothing";
+        try {
+            call.answer();
+        } catch (RuntimeException e) {
+            thrown = e.getClass().getSimpleName();
+        }
+        due(what + " throws", thrown, want.getSimpleName());
+        due(what + " changes nothing", Snapshot.of(swarm), before);
+    }
+
+    static void refusedIndex(String what, ShelfSwarm swarm, Call call) {
+        refused(what, swarm, IndexOutOfBoundsException.class, call);
+    }
+
+    static void refusedArgument(String what, ShelfSwarm swarm, Call call) {
+        refused(what, swarm, IllegalArgumentException.class, call);
+    }
+
+    static void refusedState(String what, ShelfSwarm swarm, Call call) {
+        refused(what, swarm, IllegalStateException.class, call);
+    }
+}
