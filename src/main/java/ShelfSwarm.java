@@ -545,13 +545,10 @@ public final class ShelfSwarm {
         }
 
         int goal() {
-            if (tray != null && (state == FETCHING || state == RETURNING)) {
-                return tray.home;
+            if (state == FETCHING || state == RETURNING) {
+                return tray == null ? NONE : tray.home;
             }
-            if (line != null && line.station != null && (state == BRINGING || state == SERVING)) {
-                return line.station.cell;
-            }
-            return NONE;
+            return line == null || line.station == null ? NONE : line.station.cell;
         }
 
         void become(int newState) {

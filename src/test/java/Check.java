@@ -31,14 +31,18 @@ final class Check {
         }
     }
 
-    /** The call must throw the exception, and leave all that can be asked of the swarm as it was. */
+    /**
+     * The program itself must throw the exception, not the Java machine or library for it, and leave
+     * all that can be asked of the swarm as it was.
+     */
     static void refused(String what, ShelfSwarm swarm, Class<? extends RuntimeException> want, Call call) {
         String before = Snapshot.of(swarm);
         String thrown = "nothing";
         try {
             call.answer();
         } catch (RuntimeException e) {
-            thrown = e.getClass().getSimpleName();
+            boolean isItsOwn = e.getStackTrace()[0].getClassName().startsWith("ShelfSwarm");
+            thrown = isItsOwn ? e.getClass().getSimpleName() : e.toString();
         }
         due(what + " throws", thrown, want.getSimpleName());
         due(what + " changes nothing", Snapshot.of(swarm), before);

@@ -146,19 +146,27 @@ final class PointTests {
         Check.due("point 3: the second station takes the tray that is left", y.trayOf(0) * 10 + y.trayOf(1), 10);
     }
 
-    private static void oneRobotAStation() {
+    /** The robot in the cell 62 works for a line, the one in 63 must wait till the station is free. */
+    private static ShelfSwarm twoLines(int cell, int otherCell) {
         ShelfSwarm x = new ShelfSwarm();
         x.addStation(0);
         x.addTray(8, 0, 5);
         x.addTray(40, 1, 5);
-        x.addRobot(63, 0);
-        x.addRobot(62, 0);
+        x.addRobot(cell, 0);
+        x.addRobot(otherCell, 0);
         Scene.ordered(x, 0, 0, 5);
         Scene.ordered(x, 0, 1, 5);
         x.tick(17);
+        return x;
+    }
+
+    private static void oneRobotAStation() {
+        ShelfSwarm x = twoLines(63, 62);
         Check.due("point 3: one works for the station", Scene.states(x, 2), "0 3");
         x.tick(1);
         Check.due("point 3: it works no more, another one is sent", Scene.states(x, 2), "1 0");
+        ShelfSwarm y = twoLines(62, 63);
+        Check.due("point 3: the other one works for it", Scene.states(y, 2), "3 0");
     }
 
     /** Where a robot in the cell 27 moves first, if it fetches a tray at home in the cell. */

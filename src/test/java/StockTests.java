@@ -191,6 +191,13 @@ final class StockTests {
         Check.due("11: claimed no more", x.claimant(0, 0), ShelfSwarm.NONE);
         Check.refusedState("11: given up", x, () -> x.giveUp(0, 0));
         Check.due("11: counted no more", x.claim(1, 0, 0), 1);
+        x.addLine(0, 0, 1);
+        x.addLine(0, 0, 1);
+        x.claim(1, 0, 1);
+        x.claim(1, 0, 2);
+        Check.due("11: not the first one", x.giveUp(0, 1), 1);
+        Check.due("11: only that one", x.claimant(0, 0) * 100 + x.claimant(0, 1) * 10 + x.claimant(0, 2), 91);
+        Check.due("11: two are left", x.claim(1, 0, 1), 3);
     }
 
     private static void giveUpWork() {

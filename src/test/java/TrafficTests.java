@@ -4,8 +4,11 @@ final class TrafficTests {
     }
 
     static void run() {
-        ringOfFour();
+        turnOfFour();
+        turnOfSix();
         ringAndFollower();
+        twoKnots();
+        behindAKnot();
         yieldByNumber();
         yieldByRank();
         theOtherYields();
@@ -19,59 +22,51 @@ final class TrafficTests {
     }
 
     /**
-     * Robots that return trays round the square of the cells 9, 10, 18 and 17, each into the next
-     * one's cell: the robot 0 from 26 by 18 to 17, 1 in 17 to 9, 2 in 9 to 10, 3 in 10 to 18.
+     * A new robot takes a new tray of the good at its home and walks on towards the station, till it
+     * is in the cell and dies there; closed cells show it the way.
      */
-    private static ShelfSwarm square() {
-        ShelfSwarm x = new ShelfSwarm();
-        x.addStation(17);
-        x.addStation(9);
-        x.addStation(10);
-        x.addTray(17, 0, 99);
-        x.addTray(9, 1, 99);
-        x.addTray(10, 2, 99);
-        x.addTray(18, 3, 99);
-        sendOut(x);
-        int[] homes = {9, 10, 18};
-        for (int i = 0; i < 3; i++) {
-            x.addRobot(homes[i], i);
-            Scene.ordered(x, i, 1 + i, 50);
-            x.tick(3);
+    private static void park(ShelfSwarm x, int station, int good, int home, int cell, int... closed) {
+        int tray = x.addTray(home, good, 9);
+        int robot = x.addRobot(home, 5 - good);
+        int order = Scene.ordered(x, station, good, 9);
+        Scene.close(x, true, closed);
+        for (int i = 0; i < 9 && x.cellOf(robot) != cell; i++) {
+            x.tick(1);
         }
-        Check.due("square: the robots", Scene.cells(x, 4), "26 17 9 10");
-        Check.due("square: their states", Scene.states(x, 4), "5 3 3 3");
+        Check.due("parked in its cell with its tray", x.cellOf(robot) * 100 + x.die(robot), cell * 100 + tray);
+        x.giveUp(order, 0);
+        Scene.close(x, false, closed);
+    }
+
+    /** Repairs all robots; the robot 0 comes from the cell 25 into 17 then, and closes the ring. */
+    private static void closeRing(ShelfSwarm x, int robots) {
+        for (int robot = 0; robot < robots; robot++) {
+            x.repair(robot);
+        }
+        int steps = x.steps();
+        x.tick(1);
+        Check.due("ring: the robot 0 has come alone", x.cellOf(0) * 100 + x.steps() - steps, 1701);
+        Check.due("27: none yet", x.rings(), 0);
+    }
+
+    /** Robots in 17, 9, 10 and 18, each of which brings its tray home into the cell of the next one. */
+    private static ShelfSwarm ringOfFour() {
+        ShelfSwarm x = new ShelfSwarm();
+        x.addStation(57);
+        park(x, 0, 0, 9, 25);
+        park(x, 0, 1, 10, 9, 2, 11, 18);
+        park(x, 0, 2, 18, 10, 17, 19, 26);
+        park(x, 0, 3, 17, 18, 16);
+        closeRing(x, 4);
         return x;
     }
 
-    /** The robot 0 takes the tray of the cell 17 as far as the cell 26, and dies there. */
-    private static void sendOut(ShelfSwarm x) {
-        x.addRobot(17, 5);
-        int order = Scene.ordered(x, 2, 0, 50);
-        Scene.close(x, true, 9, 16, 18);
-        x.tick(3);
-        Check.due("square: sent out", x.cellOf(0) * 10 + x.state(0), 262);
-        x.die(0);
-        x.giveUp(order, 0);
-        Scene.close(x, false, 9, 16, 18);
-    }
-
-    private static void startSquare(ShelfSwarm x) {
-        x.repair(0);
-        x.tick(1);
-        Check.due("square: the robot 0 has come", x.cellOf(0), 18);
-        for (int order = 1; order <= 3; order++) {
-            x.giveUp(order, 0);
-        }
-    }
-
-    private static void ringOfFour() {
-        ShelfSwarm x = square();
-        startSquare(x);
+    private static void turnOfFour() {
+        ShelfSwarm x = ringOfFour();
         int steps = x.steps();
-        Check.due("27: none yet", x.rings(), 0);
         x.tick(1);
         Check.due("27: the ring has moved", x.rings(), 1);
-        Check.due("point 5: all at once", Scene.cells(x, 4), "17 9 10 18");
+        Check.due("point 5: all at once", Scene.cells(x, 4), "9 10 18 17");
         Check.due("26: each one a step", x.steps() - steps, 4);
         Check.due("23: all have moved", Scene.asks(x, 4), "-1 -1 -1 -1");
         Check.due("point 8: all are home", Scene.states(x, 4), "0 0 0 0");
@@ -80,18 +75,73 @@ final class TrafficTests {
         Check.due("27: once", x.rings(), 1);
     }
 
-    /** A robot that asks for a cell of the ring finds the next one in it. */
+    private static void turnOfSix() {
+        ShelfSwarm x = new ShelfSwarm();
+        x.addStation(57);
+        park(x, 0, 0, 9, 25);
+        park(x, 0, 1, 10, 9, 2, 11, 18);
+        park(x, 0, 2, 11, 10, 3, 12, 19);
+        park(x, 0, 3, 19, 11, 18, 20, 27);
+        park(x, 0, 4, 18, 19, 17, 26);
+        park(x, 0, 5, 17, 18, 16);
+        closeRing(x, 6);
+        int steps = x.steps();
+        x.tick(1);
+        Check.due("27: one of six", x.rings() * 100 + x.steps() - steps, 106);
+        Check.due("point 5: all six at once", Scene.cells(x, 6), "9 10 11 19 18 17");
+    }
+
+    /** A robot that asks for a cell of the ring, and is above all in it, finds the next one in that cell. */
     private static void ringAndFollower() {
-        ShelfSwarm x = square();
-        startSquare(x);
+        ShelfSwarm x = ringOfFour();
         x.addTray(11, 4, 9);
         x.addRobot(8, 9);
-        Scene.ordered(x, 1, 4, 9);
+        Scene.ordered(x, 0, 4, 9);
         x.tick(1);
         Check.due("point 5: the ring first", Scene.cells(x, 5) + ", " + Scene.asks(x, 5),
-                "17 9 10 18 8, -1 -1 -1 -1 9");
+                "9 10 18 17 8, -1 -1 -1 -1 9");
         x.tick(1);
-        Check.due("point 6: then the fifth one", Scene.cells(x, 5), "17 1 10 18 9");
+        Check.due("point 6: then the fifth one", Scene.cells(x, 5), "1 10 18 17 9");
+    }
+
+    /** Two pairs of robots, 0 and 2, and 1 and 3, that cannot pass one another in two corridors. */
+    private static void twoKnots() {
+        ShelfSwarm x = Scene.corridor();
+        Scene.walls(x, 24, 25, 26, 27, 28, 29, 30, 31);
+        x.addStation(7);
+        x.addStation(23);
+        park(x, 0, 0, 1, 4);
+        park(x, 1, 1, 17, 20);
+        x.addTray(6, 2, 9);
+        x.addTray(22, 3, 9);
+        x.addRobot(3, 0);
+        x.addRobot(19, 0);
+        x.repair(0);
+        x.repair(1);
+        Scene.ordered(x, 0, 2, 9);
+        Scene.ordered(x, 1, 3, 9);
+        x.tick(1);
+        Check.due("29: two knots", Scene.asks(x, 4) + ", " + x.knots() + x.rings(), "3 19 4 20, 20");
+        x.tick(2);
+        Check.due("29: two in each tick", Scene.cells(x, 4) + ", " + x.knots() + x.rings(), "4 20 3 19, 60");
+    }
+
+    /** The robot 0 asks for a cell of a knot, but is not in it. */
+    private static void behindAKnot() {
+        ShelfSwarm x = Scene.corridor();
+        int[] homes = {6, 7, 0};
+        int[] cells = {1, 4, 6};
+        for (int i = 0; i < 3; i++) {
+            x.addStation(i);
+            x.addTray(homes[i], i, 9);
+            x.addRobot(cells[i], i);
+            Scene.ordered(x, i, i, 5);
+            x.tick(1);
+        }
+        Check.due("29: a knot ahead", Scene.cells(x, 3) + ", " + x.knots(), "4 5 6, 1");
+        x.tick(1);
+        Check.due("29: a robot behind the knot", Scene.asks(x, 3) + ", " + x.knots() + x.rings() + x.yields(),
+                "5 6 5, 200");
     }
 
     /** Two robots that meet in the first row, in the cells 3 and 4; the row below it is free. */
