@@ -222,7 +222,14 @@ public final class ShelfSwarm {
         }
         int picksBefore = picks.size();
         for (int i = 0; i < ticks; i++) {
-            passTick();
+            time++;
+            pickFromServing();
+            sendRobots();
+            fleet.askForCells(time);
+            fleet.settleRings();
+            fleet.stepAside();
+            fleet.moveOn();
+            fleet.arrive();
         }
         return picks.size() - picksBefore;
     }
@@ -367,18 +374,7 @@ public final class ShelfSwarm {
         return false;
     }
 
-    // ---- what happens in a tick
-
-    private void passTick() {
-        time++;
-        pickFromServing();
-        sendRobots();
-        fleet.askForCells(time);
-        fleet.settleRings();
-        fleet.stepAside();
-        fleet.moveOn();
-        fleet.arrive();
-    }
+    // ---- what happens in a tick, before the robots move
 
     /** Point 2. */
     private void pickFromServing() {
