@@ -7,11 +7,17 @@ public final class AllTests {
         FaceTests.run();
         LanguageTests.run();
         FloorTests.run();
+        FloorBounds.run();
         StockTests.run();
+        StockBounds.run();
         RobotTests.run();
+        RobotBounds.run();
         TickTests.run();
+        TickBounds.run();
         PointTests.run();
+        PointBounds.run();
         TrafficTests.run();
+        TermsBounds.run();
         ModelTests.run(400);
         System.out.println("own checks: " + Check.right + " right, " + Check.wrong + " wrong");
         if (Check.wrong != 0) {

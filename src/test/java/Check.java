@@ -1,10 +1,18 @@
 /** Counts what is as due and prints what is not. */
 final class Check {
+    static final Class<? extends RuntimeException> INDEX = IndexOutOfBoundsException.class;
+    static final Class<? extends RuntimeException> ARGUMENT = IllegalArgumentException.class;
+    static final Class<? extends RuntimeException> STATE = IllegalStateException.class;
     static int right = 0;
     static int wrong = 0;
 
+    /** Makes a swarm in the state in which a call is tried; a new one each time, and always the same. */
+    interface Scenery {
+        ShelfSwarm made();
+    }
+
     interface Call {
-        long answer();
+        long answer(ShelfSwarm x);
     }
 
     private Check() {
@@ -15,7 +23,7 @@ final class Check {
             right++;
         } else {
             wrong++;
-            System.out.println(what + " answered " + got + ", due is " + want);
+            System.out.println(what + ": answered " + got + ", due is " + want);
         }
     }
 
@@ -31,32 +39,35 @@ final class Check {
         }
     }
 
-    /**
-     * The program itself must throw the exception, not the Java machine or library for it, and leave
-     * all that can be asked of the swarm as it was.
-     */
-    static void refused(String what, ShelfSwarm swarm, Class<? extends RuntimeException> want, Call call) {
-        String before = Snapshot.of(swarm);
-        String thrown = "nothing";
+    /** The call on a new swarm throws nothing and answers what is due. */
+    static void taken(String what, Scenery scenery, Call call, long want) {
+        ShelfSwarm x = scenery.made();
         try {
-            call.answer();
+            due(what, call.answer(x), want);
+        } catch (RuntimeException e) {
+            due(what + ", but threw " + e, true, false);
+        }
+    }
+
+    /**
+     * The call on a new swarm throws the exception, and the swarm is then as another new one is on
+     * which the call was not tried. Two swarms are used, as one is good for 512 calls only.
+     */
+    static void refused(String what, Scenery scenery, Class<? extends RuntimeException> want, Call call) {
+        ShelfSwarm tried = scenery.made();
+        due(what + " is refused", thrown(tried, call), want.getSimpleName());
+        ShelfSwarm spared = scenery.made();
+        due(what + " changes nothing", Snapshot.of(tried), Snapshot.of(spared));
+        due(what + " changes nothing of what comes", Snapshot.later(tried), Snapshot.later(spared));
+    }
+
+    /** What the program itself throws; an exception of the Java machine or library is told as a wrong one. */
+    static String thrown(ShelfSwarm x, Call call) {
+        try {
+            return "nothing, but answered " + call.answer(x);
         } catch (RuntimeException e) {
             boolean isItsOwn = e.getStackTrace()[0].getClassName().startsWith("ShelfSwarm");
-            thrown = isItsOwn ? e.getClass().getSimpleName() : e.toString();
+            return isItsOwn ? e.getClass().getSimpleName() : e.toString();
         }
-        due(what + " throws", thrown, want.getSimpleName());
-        due(what + " changes nothing", Snapshot.of(swarm), before);
-    }
-
-    static void refusedIndex(String what, ShelfSwarm swarm, Call call) {
-        refused(what, swarm, IndexOutOfBoundsException.class, call);
-    }
-
-    static void refusedArgument(String what, ShelfSwarm swarm, Call call) {
-        refused(what, swarm, IllegalArgumentException.class, call);
-    }
-
-    static void refusedState(String what, ShelfSwarm swarm, Call call) {
-        refused(what, swarm, IllegalStateException.class, call);
     }
 }

@@ -1,4 +1,4 @@
-/** Promises 1 to 4. */
+/** Promises 1 to 4; their boundary cases are in FloorBounds. */
 final class FloorTests {
     private FloorTests() {
     }
@@ -6,7 +6,6 @@ final class FloorTests {
     static void run() {
         newObject();
         wall();
-        wallRefused();
         setClosed();
         distance();
         distanceAroundRobots();
@@ -14,79 +13,49 @@ final class FloorTests {
 
     private static void newObject() {
         ShelfSwarm x = new ShelfSwarm();
-        Check.due("1: time", x.time(), 0);
-        Check.due("1: counts", x.steps() + x.rings() + x.yields() + x.knots() + x.picks(), 0);
+        Check.due("promise 1: time", x.time(), 0);
+        Check.due("promise 1: counts", x.steps() + x.rings() + x.yields() + x.knots() + x.picks(), 0);
         for (int cell = 0; cell < 64; cell++) {
-            Check.due("1: distance to " + cell, x.distance(0, cell), cell / 8 + cell % 8);
-            Check.due("1: robotIn " + cell, x.robotIn(cell), ShelfSwarm.NONE);
-            Check.due("1: was closed " + cell, x.setClosed(cell, false), false);
+            Check.due("promise 1: distance to " + cell, x.distance(0, cell), cell / 8 + cell % 8);
+            Check.due("promise 1: robotIn " + cell, x.robotIn(cell), ShelfSwarm.NONE);
+            Check.due("promise 1: was closed " + cell, x.setClosed(cell, false), false);
         }
-        Check.due("1: no stock", x.stock(0) + x.stockByPicks(5), 0);
-        Check.refusedIndex("1: no tray", x, () -> x.amount(0));
-        Check.refusedIndex("1: no robot", x, () -> x.state(0));
-        Check.refusedIndex("1: no order", x, () -> x.left(0, 0));
-        Check.due("1: ticks pass", x.tick(50), 0);
+        Check.due("promise 1: no stock", x.stock(0) + x.stockByPicks(5), 0);
+        Check.due("promise 1: ticks pass", x.tick(50), 0);
         ShelfSwarm other = new ShelfSwarm();
         other.wall(1);
-        Check.due("1: another one's wall", x.distance(0, 1), 1);
-        Check.due("1: another one's time", other.time(), 0);
+        Check.due("promise 1: another one's wall", x.distance(0, 1), 1);
+        Check.due("promise 1: another one's time", other.time(), 0);
     }
 
     private static void wall() {
         ShelfSwarm x = new ShelfSwarm();
         x.wall(0);
         x.wall(63);
-        Check.due("2: into a wall", x.distance(1, 0), ShelfSwarm.NONE);
-        Check.due("2: into the last cell", x.distance(62, 63), ShelfSwarm.NONE);
+        Check.due("promise 2: into a wall", x.distance(1, 0), ShelfSwarm.NONE);
+        Check.due("promise 2: into the last cell", x.distance(62, 63), ShelfSwarm.NONE);
         x.setClosed(0, false);
-        Check.due("2: a wall is for good", x.distance(1, 0), ShelfSwarm.NONE);
+        Check.due("promise 2: a wall is for good", x.distance(1, 0), ShelfSwarm.NONE);
         x.setClosed(20, true);
         x.wall(20);
         x.setClosed(20, false);
-        Check.due("2: a closed cell became a wall", x.distance(19, 20), ShelfSwarm.NONE);
-        Check.due("2: round the wall", x.distance(19, 21), 4);
-    }
-
-    private static void wallRefused() {
-        ShelfSwarm x = new ShelfSwarm();
-        x.wall(5);
-        x.addTray(6, 0, 1);
-        x.addStation(7);
-        x.addRobot(8, 0);
-        x.addRobot(9, 0);
-        x.die(1);
-        Check.refusedArgument("2: wall(-1)", x, () -> wallAt(x, -1));
-        Check.refusedArgument("2: wall(64)", x, () -> wallAt(x, 64));
-        Check.refusedArgument("2: wall(least)", x, () -> wallAt(x, Integer.MIN_VALUE));
-        Check.refusedState("2: a wall", x, () -> wallAt(x, 5));
-        Check.refusedState("2: the home of a tray", x, () -> wallAt(x, 6));
-        Check.refusedState("2: the cell of a station", x, () -> wallAt(x, 7));
-        Check.refusedState("2: a robot", x, () -> wallAt(x, 8));
-        Check.refusedState("2: a dead robot", x, () -> wallAt(x, 9));
-        x.repair(1);
-        Check.due("2: the cells stay open", x.distance(14, 9) + x.distance(6, 7), 6);
-    }
-
-    private static long wallAt(ShelfSwarm x, int cell) {
-        x.wall(cell);
-        return 0;
+        Check.due("promise 2: a closed cell became a wall", x.distance(19, 20), ShelfSwarm.NONE);
+        Check.due("promise 2: round the wall", x.distance(19, 21), 4);
     }
 
     private static void setClosed() {
         ShelfSwarm x = new ShelfSwarm();
-        Check.due("3: it was open", x.setClosed(0, true), false);
-        Check.due("3: it was closed", x.setClosed(0, true), true);
-        Check.due("3: no way in", x.distance(1, 0), ShelfSwarm.NONE);
-        Check.due("3: a way out", x.distance(0, 1), 1);
-        Check.due("3: it was closed till now", x.setClosed(0, false), true);
-        Check.due("3: it is open", x.setClosed(0, false), false);
-        Check.due("3: a way in", x.distance(1, 0), 1);
-        Check.due("3: the last cell", x.setClosed(63, true), false);
+        Check.due("promise 3: it was open", x.setClosed(0, true), false);
+        Check.due("promise 3: it was closed", x.setClosed(0, true), true);
+        Check.due("promise 3: no way in", x.distance(1, 0), ShelfSwarm.NONE);
+        Check.due("promise 3: a way out", x.distance(0, 1), 1);
+        Check.due("promise 3: it was closed till now", x.setClosed(0, false), true);
+        Check.due("promise 3: it is open", x.setClosed(0, false), false);
+        Check.due("promise 3: a way in", x.distance(1, 0), 1);
+        Check.due("promise 3: the last cell", x.setClosed(63, true), false);
         x.wall(9);
-        Check.due("3: a wall is not closed", x.setClosed(9, true), false);
-        Check.due("3: a wall was closed", x.setClosed(9, false), true);
-        Check.refusedArgument("3: -1", x, () -> x.setClosed(-1, true) ? 1 : 0);
-        Check.refusedArgument("3: 64", x, () -> x.setClosed(64, false) ? 1 : 0);
+        Check.due("promise 3: a wall is not closed", x.setClosed(9, true), false);
+        Check.due("promise 3: a wall was closed", x.setClosed(9, false), true);
         leaveClosedCell();
     }
 
@@ -98,31 +67,26 @@ final class FloorTests {
         Scene.ordered(x, 0, 0, 1);
         x.setClosed(0, true);
         x.tick(1);
-        Check.due("3: a robot leaves a closed cell", x.cellOf(0), 1);
+        Check.due("promise 3: a robot leaves a closed cell", x.cellOf(0), 1);
         x.setClosed(2, true);
         x.tick(1);
-        Check.due("3: a robot goes into no closed cell", x.cellOf(0), 1);
-        Check.due("3: it asks for none", x.asked(0), ShelfSwarm.NONE);
+        Check.due("promise 3: a robot goes into no closed cell", x.cellOf(0), 1);
+        Check.due("promise 3: it asks for none", x.asked(0), ShelfSwarm.NONE);
     }
 
     private static void distance() {
         ShelfSwarm x = new ShelfSwarm();
-        Check.due("4: corner to corner", x.distance(7, 56), 14);
-        Check.due("4: rows do not join", x.distance(7, 8), 8);
-        Check.due("4: rows do not join back", x.distance(8, 7), 8);
+        Check.due("promise 4: corner to corner", x.distance(7, 56), 14);
+        Check.due("promise 4: rows do not join", x.distance(7, 8), 8);
+        Check.due("promise 4: rows do not join back", x.distance(8, 7), 8);
         Scene.walls(x, 1, 8);
-        Check.due("4: shut in", x.distance(0, 63), ShelfSwarm.NONE);
-        Check.due("4: shut out", x.distance(63, 0), ShelfSwarm.NONE);
-        Check.due("4: a cell to itself", x.distance(0, 0), 0);
-        Check.due("4: a wall to itself", x.distance(1, 1), 0);
-        Check.due("4: out of a wall", x.distance(1, 2), 1);
-        Check.due("4: into a wall", x.distance(2, 1), ShelfSwarm.NONE);
-        Check.due("4: out of a wall into the corner", x.distance(1, 0), 1);
-        Check.refusedArgument("4: from -1", x, () -> x.distance(-1, 0));
-        Check.refusedArgument("4: from 64", x, () -> x.distance(64, 0));
-        Check.refusedArgument("4: to -1", x, () -> x.distance(0, -1));
-        Check.refusedArgument("4: to 64", x, () -> x.distance(0, 64));
-        Check.refusedArgument("4: both the same", x, () -> x.distance(64, 64));
+        Check.due("promise 4: shut in", x.distance(0, 63), ShelfSwarm.NONE);
+        Check.due("promise 4: shut out", x.distance(63, 0), ShelfSwarm.NONE);
+        Check.due("promise 4: a cell to itself", x.distance(0, 0), 0);
+        Check.due("promise 4: a wall to itself", x.distance(1, 1), 0);
+        Check.due("promise 4: out of a wall", x.distance(1, 2), 1);
+        Check.due("promise 4: into a wall", x.distance(2, 1), ShelfSwarm.NONE);
+        Check.due("promise 4: out of a wall into the corner", x.distance(1, 0), 1);
         longestWay();
     }
 
@@ -137,24 +101,24 @@ final class FloorTests {
                 }
             }
         }
-        Check.due("4: a way like a snake", x.distance(0, 56), 35);
-        Check.due("4: and back", x.distance(56, 0), 35);
+        Check.due("promise 4: a way like a snake", x.distance(0, 56), 35);
+        Check.due("promise 4: and back", x.distance(56, 0), 35);
     }
 
     private static void distanceAroundRobots() {
         ShelfSwarm x = new ShelfSwarm();
         x.addRobot(1, 0);
-        Check.due("4: through a robot", x.distance(0, 2), 2);
+        Check.due("promise 4: through a robot", x.distance(0, 2), 2);
         x.die(0);
-        Check.due("4: round a dead robot", x.distance(0, 2), 4);
-        Check.due("4: to a dead robot", x.distance(0, 1), ShelfSwarm.NONE);
-        Check.due("4: from a dead robot", x.distance(1, 0), 1);
+        Check.due("promise 4: round a dead robot", x.distance(0, 2), 4);
+        Check.due("promise 4: to a dead robot", x.distance(0, 1), ShelfSwarm.NONE);
+        Check.due("promise 4: from a dead robot", x.distance(1, 0), 1);
         x.repair(0);
-        Check.due("4: to a repaired robot", x.distance(0, 1), 1);
+        Check.due("promise 4: to a repaired robot", x.distance(0, 1), 1);
         x.addStation(8);
         x.addTray(9, 0, 1);
-        Check.due("4: stations and trays are in nobody's way", x.distance(0, 10), 3);
+        Check.due("promise 4: stations and trays are in nobody's way", x.distance(0, 10), 3);
         x.setClosed(1, true);
-        Check.due("4: through the station and the tray", x.distance(0, 10), 3);
+        Check.due("promise 4: through the station and the tray", x.distance(0, 10), 3);
     }
 }

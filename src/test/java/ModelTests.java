@@ -17,14 +17,17 @@ final class ModelTests {
     private final int blockStart;
     // A narrow block full of trays and robots, that die and are repaired all the time: rings come from that.
     private final boolean isCrowd;
+    // Four robots are put so that they are about to be a ring.
+    private final boolean isRing;
 
     private ModelTests(int run) {
         seed = run * 7919L + 17;
         draw(2);
+        isRing = run % 8 == 6;
         isCrowd = run % 2 == 1;
-        blockColumns = isCrowd ? 2 + draw(2) : 2 + draw(run % 3 == 0 ? 7 : 3);
-        blockRows = isCrowd ? 2 : 1 + draw(run % 3 == 0 ? 8 : 3);
-        blockStart = draw(9 - blockColumns) + 8 * draw(9 - blockRows);
+        blockColumns = isRing ? 4 : isCrowd ? 2 + draw(2) : 2 + draw(run % 3 == 0 ? 7 : 3);
+        blockRows = isRing ? 3 : isCrowd ? 2 : 1 + draw(run % 3 == 0 ? 8 : 3);
+        blockStart = isRing ? draw(5) + 8 : draw(9 - blockColumns) + 8 * draw(9 - blockRows);
     }
 
     public static void main(String[] args) {
@@ -69,8 +72,12 @@ final class ModelTests {
     }
 
     private void play() {
-        surroundBlock();
-        setUp();
+        if (isRing) {
+            setUpRing();
+        } else {
+            surroundBlock();
+            setUp();
+        }
         while (calls < CALLS && same) {
             int kind = draw(100);
             if (isCrowd && kind < 35) {
@@ -137,6 +144,48 @@ final class ModelTests {
         }
         for (int i = draw(50); i > 0; i--) {
             call(8, draw(3), draw(10), draw(3));
+        }
+    }
+
+    /** The ring of TrafficTests, somewhere in the rows 1 and 2, with drawn ranks; now and then it is disturbed. */
+    private void setUpRing() {
+        call(3, blockStart + 48, 0, 0);
+        park(0, 0, 16);
+        park(1, 1, 0, -7, 2, 9);
+        park(2, 9, 1, 8, 10, 17);
+        park(3, 8, 9, 7);
+        for (int robot = draw(12) == 0 ? 1 : 0; robot < 4; robot++) {
+            call(16, robot, 0, 0);
+            if (draw(6) == 0) {
+                call(TICK, 1, 0, 0);
+            }
+        }
+        while (draw(3) != 0) {
+            call(14, drawCell(), draw(10), 0);
+            call(4, drawCell(), draw(6), 9);
+            drawAndCall(draw(KINDS));
+        }
+        call(TICK, 1, 0, 0);
+        call(TICK, 1, 0, 0);
+    }
+
+    /** As in TrafficTests; the cells are counted from the start of the block. */
+    private void park(int robot, int home, int cell, int... closed) {
+        call(4, blockStart + home, robot, 9);
+        call(14, blockStart + home, draw(10), 0);
+        call(6, 0, 0, 0);
+        call(7, robot, robot, 9);
+        call(8, 0, robot, 0);
+        for (int beside : closed) {
+            call(1, blockStart + beside, 1, 0);
+        }
+        for (int i = 0; i < 9 && model.cellOf(robot) != blockStart + cell; i++) {
+            call(TICK, 1, 0, 0);
+        }
+        call(15, robot, 0, 0);
+        call(9, robot, 0, 0);
+        for (int beside : closed) {
+            call(1, blockStart + beside, 0, 0);
         }
     }
 

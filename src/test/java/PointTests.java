@@ -1,4 +1,4 @@
-/** What happens in a tick: the points 2, 3, 4, 6 and 8. */
+/** What happens in a tick: the points 2, 3, 4, 6 and 8; their boundary cases are in PointBounds. */
 final class PointTests {
     private PointTests() {
     }
@@ -217,31 +217,20 @@ final class PointTests {
         Check.due("point 8: the tray is home", x.state(0) * 10 + x.steps(), 0);
     }
 
-    /** The robot 0 comes along the fourth row and has reached the cell 25. */
-    private static ShelfSwarm coming() {
-        ShelfSwarm x = new ShelfSwarm();
-        x.addStation(63);
-        x.addTray(31, 0, 5);
-        x.addRobot(24, 0);
-        Scene.ordered(x, 0, 0, 5);
-        x.tick(1);
-        return x;
-    }
-
     private static void stepAside() {
-        ShelfSwarm x = coming();
+        ShelfSwarm x = Scene.coming();
         x.addRobot(26, 9);
         x.tick(1);
         Check.due("point 6: up", Scene.cells(x, 2), "26 18");
         Check.due("point 6: it is a step", x.steps(), 3);
         x.tick(1);
         Check.due("point 6: nobody asks for its cell", Scene.cells(x, 2), "27 18");
-        ShelfSwarm y = coming();
+        ShelfSwarm y = Scene.coming();
         y.addRobot(26, 9);
         y.setClosed(18, true);
         y.tick(1);
         Check.due("point 6: into no closed cell, nor the other's", Scene.cells(y, 2), "26 27");
-        ShelfSwarm z = coming();
+        ShelfSwarm z = Scene.coming();
         z.addRobot(26, 9);
         z.addRobot(18, 9);
         z.tick(1);

@@ -22,6 +22,27 @@ final class Snapshot {
         return text.toString();
     }
 
+    /** What comes of it: the numbers that are given next, and three ticks. */
+    static String later(ShelfSwarm x) {
+        StringBuilder text = new StringBuilder();
+        text.append(told(x, y -> y.addOrder())).append(told(x, y -> y.addLine(0, 0, 1)));
+        text.append(told(x, y -> y.addStation(33))).append(told(x, y -> y.addTray(33, 0, 1)));
+        text.append(told(x, y -> y.addRobot(33, 0)));
+        for (int i = 0; i < 3; i++) {
+            text.append(" tick").append(told(x, y -> y.tick(1)));
+            addRobots(text, x);
+        }
+        return text.toString();
+    }
+
+    private static String told(ShelfSwarm x, Check.Call call) {
+        try {
+            return " " + call.answer(x);
+        } catch (RuntimeException e) {
+            return " " + e.getClass().getSimpleName();
+        }
+    }
+
     private static void addCells(StringBuilder text, ShelfSwarm x) {
         for (int cell = 0; cell < 64; cell++) {
             int beside = cell % 8 == 0 ? cell + 1 : cell - 1;

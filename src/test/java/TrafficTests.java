@@ -46,11 +46,11 @@ final class TrafficTests {
         int steps = x.steps();
         x.tick(1);
         Check.due("ring: the robot 0 has come alone", x.cellOf(0) * 100 + x.steps() - steps, 1701);
-        Check.due("27: none yet", x.rings(), 0);
+        Check.due("promise 27: none yet", x.rings(), 0);
     }
 
     /** Robots in 17, 9, 10 and 18, each of which brings its tray home into the cell of the next one. */
-    private static ShelfSwarm ringOfFour() {
+    static ShelfSwarm ringOfFour() {
         ShelfSwarm x = new ShelfSwarm();
         x.addStation(57);
         park(x, 0, 0, 9, 25);
@@ -65,14 +65,14 @@ final class TrafficTests {
         ShelfSwarm x = ringOfFour();
         int steps = x.steps();
         x.tick(1);
-        Check.due("27: the ring has moved", x.rings(), 1);
+        Check.due("promise 27: the ring has moved", x.rings(), 1);
         Check.due("point 5: all at once", Scene.cells(x, 4), "9 10 18 17");
-        Check.due("26: each one a step", x.steps() - steps, 4);
-        Check.due("23: all have moved", Scene.asks(x, 4), "-1 -1 -1 -1");
+        Check.due("promise 26: each one a step", x.steps() - steps, 4);
+        Check.due("promise 23: all have moved", Scene.asks(x, 4), "-1 -1 -1 -1");
         Check.due("point 8: all are home", Scene.states(x, 4), "0 0 0 0");
-        Check.due("28, 29: nobody yielded, no knot", x.yields() + x.knots(), 0);
+        Check.due("promises 28, 29: nobody yielded, no knot", x.yields() + x.knots(), 0);
         x.tick(5);
-        Check.due("27: once", x.rings(), 1);
+        Check.due("promise 27: once", x.rings(), 1);
     }
 
     private static void turnOfSix() {
@@ -87,7 +87,7 @@ final class TrafficTests {
         closeRing(x, 6);
         int steps = x.steps();
         x.tick(1);
-        Check.due("27: one of six", x.rings() * 100 + x.steps() - steps, 106);
+        Check.due("promise 27: one of six", x.rings() * 100 + x.steps() - steps, 106);
         Check.due("point 5: all six at once", Scene.cells(x, 6), "9 10 11 19 18 17");
     }
 
@@ -121,9 +121,9 @@ final class TrafficTests {
         Scene.ordered(x, 0, 2, 9);
         Scene.ordered(x, 1, 3, 9);
         x.tick(1);
-        Check.due("29: two knots", Scene.asks(x, 4) + ", " + x.knots() + x.rings(), "3 19 4 20, 20");
+        Check.due("promise 29: two knots", Scene.asks(x, 4) + ", " + x.knots() + x.rings(), "3 19 4 20, 20");
         x.tick(2);
-        Check.due("29: two in each tick", Scene.cells(x, 4) + ", " + x.knots() + x.rings(), "4 20 3 19, 60");
+        Check.due("promise 29: two in each tick", Scene.cells(x, 4) + ", " + x.knots() + x.rings(), "4 20 3 19, 60");
     }
 
     /** The robot 0 asks for a cell of a knot, but is not in it. */
@@ -138,14 +138,14 @@ final class TrafficTests {
             Scene.ordered(x, i, i, 5);
             x.tick(1);
         }
-        Check.due("29: a knot ahead", Scene.cells(x, 3) + ", " + x.knots(), "4 5 6, 1");
+        Check.due("promise 29: a knot ahead", Scene.cells(x, 3) + ", " + x.knots(), "4 5 6, 1");
         x.tick(1);
-        Check.due("29: a robot behind the knot", Scene.asks(x, 3) + ", " + x.knots() + x.rings() + x.yields(),
+        Check.due("promise 29: a robot behind the knot", Scene.asks(x, 3) + ", " + x.knots() + x.rings() + x.yields(),
                 "5 6 5, 200");
     }
 
     /** Two robots that meet in the first row, in the cells 3 and 4; the row below it is free. */
-    private static ShelfSwarm meeting(int rank, int otherRank) {
+    static ShelfSwarm meeting(int rank, int otherRank) {
         ShelfSwarm x = new ShelfSwarm();
         x.addStation(56);
         x.addStation(63);
@@ -163,11 +163,11 @@ final class TrafficTests {
     private static void yieldByNumber() {
         ShelfSwarm x = meeting(5, 5);
         x.tick(1);
-        Check.due("28: one", x.yields(), 1);
-        Check.due("29: no knot", x.knots(), 0);
-        Check.due("27: no ring of three", x.rings(), 0);
+        Check.due("promise 28: one", x.yields(), 1);
+        Check.due("promise 29: no knot", x.knots(), 0);
+        Check.due("promise 27: no ring of three", x.rings(), 0);
         Check.due("point 5: nobody moves", Scene.cells(x, 2), "3 4");
-        Check.due("23: one asks for none any more", Scene.asks(x, 2), "4 -1");
+        Check.due("promise 23: one asks for none any more", Scene.asks(x, 2), "4 -1");
         String[] cells = {"3 12", "4 12", "5 12", "6 4", "7 3"};
         String[] asks = {"4 -1", "-1 4", "-1 4", "-1 -1", "-1 -1"};
         for (int i = 0; i < cells.length; i++) {
@@ -175,18 +175,18 @@ final class TrafficTests {
             Check.due("point 5: after " + (i + 1) + " more, cells", Scene.cells(x, 2), cells[i]);
             Check.due("point 5: after " + (i + 1) + " more, asks", Scene.asks(x, 2), asks[i]);
         }
-        Check.due("28: once", x.yields(), 1);
+        Check.due("promise 28: once", x.yields(), 1);
     }
 
     private static void yieldByRank() {
         ShelfSwarm x = meeting(4, 5);
         x.tick(1);
-        Check.due("28: the lower rank", Scene.asks(x, 2) + ", " + x.yields(), "-1 3, 1");
+        Check.due("promise 28: the lower rank", Scene.asks(x, 2) + ", " + x.yields(), "-1 3, 1");
         x.tick(1);
         Check.due("point 5: it goes round", Scene.cells(x, 2), "11 4");
         ShelfSwarm y = meeting(5, 4);
         y.tick(1);
-        Check.due("28: the lower rank of the other one", Scene.asks(y, 2) + ", " + y.yields(), "4 -1, 1");
+        Check.due("promise 28: the lower rank of the other one", Scene.asks(y, 2) + ", " + y.yields(), "4 -1, 1");
     }
 
     /** The robot 1 must go by the cell 10 into its goal; so the robot 0 yields, though it is above. */
@@ -203,7 +203,7 @@ final class TrafficTests {
         x.addRobot(18, 0);
         Scene.ordered(x, 1, 1, 5);
         x.tick(1);
-        Check.due("28: the one above", Scene.asks(x, 2) + ", " + x.yields() + x.knots(), "-1 10, 10");
+        Check.due("promise 28: the one above", Scene.asks(x, 2) + ", " + x.yields() + x.knots(), "-1 10, 10");
         x.tick(1);
         Check.due("point 5: it goes round the other one", Scene.cells(x, 2), "9 18");
         x.tick(2);
@@ -240,7 +240,8 @@ final class TrafficTests {
         Check.due("point 5: it goes round", Scene.cells(x, 2), "3 12");
     }
 
-    private static void knots() {
+    /** Two robots that have come into the cells 3 and 4 of a corridor, and are a knot from the next tick on. */
+    static ShelfSwarm knotted() {
         ShelfSwarm x = Scene.corridor();
         x.addStation(3);
         x.addStation(4);
@@ -251,14 +252,19 @@ final class TrafficTests {
         x.tick(1);
         x.addRobot(4, 5);
         Scene.ordered(x, 1, 1, 5);
+        return x;
+    }
+
+    private static void knots() {
+        ShelfSwarm x = knotted();
         x.tick(1);
-        Check.due("29: one", x.knots() * 10 + x.yields(), 10);
+        Check.due("promise 29: one", x.knots() * 10 + x.yields(), 10);
         Check.due("point 5: both go on asking", Scene.asks(x, 2) + " in " + Scene.cells(x, 2), "4 3 in 3 4");
         x.tick(9);
-        Check.due("29: one in each tick", x.knots() * 10 + x.yields(), 100);
+        Check.due("promise 29: one in each tick", x.knots() * 10 + x.yields(), 100);
         x.giveUp(0, 0);
         x.tick(3);
-        Check.due("29: an idle one makes none", x.knots(), 10);
+        Check.due("promise 29: an idle one makes none", x.knots(), 10);
         Check.due("point 6: it is sent along", Scene.cells(x, 2), "0 1");
     }
 
@@ -276,7 +282,7 @@ final class TrafficTests {
         x.giveUp(0, 0);
         Scene.ordered(x, 1, 1, 9);
         x.tick(1);
-        Check.due("29: a knot", x.knots() * 10 + x.yields(), 10);
+        Check.due("promise 29: a knot", x.knots() * 10 + x.yields(), 10);
         Check.due("point 5: both ask", Scene.asks(x, 2) + " in " + Scene.cells(x, 2), "28 27 in 27 28");
     }
 
