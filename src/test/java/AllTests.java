@@ -6,6 +6,7 @@ public final class AllTests {
     public static void main(String[] args) throws Exception {
         FaceTests.run();
         LanguageTests.run();
+        ReadmeTests.run();
         FloorTests.run();
         FloorBounds.run();
         StockTests.run();
